@@ -556,24 +556,34 @@ public final class WhistleTunes {
     }
 
     private int playPart(int start, int end) {
-        switch (text.at(start)) {
-            case '!':
-                school.beginNight();
-                return 0;
-            case 'k':
-                school.keyOfNow = text.numberIn(start + 1, end);
-                return 0;
-            case 't':
-                school.roomKeys[text.numberIn(start + 1, end)] = school.keyOfNow;
-                return 0;
-            case 'w':
-                return playWhistle(text.numberIn(start + 1, start + 2), text.numberIn(start + 3, end));
-            default:
-                return playTeaching(start, end);
+        char sign = text.at(start);
+        if (sign == 'w') {
+            return playWhistle(text.numberIn(start + 1, start + 2), text.numberIn(start + 3, end));
+        }
+        if (sign != '!' && sign != 'k' && sign != 't') {
+            return playTeaching(start, end);
+        }
+        if (sign == '!') {
+            school.beginNight();
+        } else if (sign == 'k') {
+            school.keyOfNow = text.numberIn(start + 1, end);
+        } else {
+            playTelling(text.numberIn(start + 1, end));
+        }
+        return 0;
+    }
+
+    // The grammar lets no other rooms and messages through; the parts look once more, so that no index depends on that.
+    private void playTelling(int room) {
+        if (isRoom(room)) {
+            school.roomKeys[room] = school.keyOfNow;
         }
     }
 
     private int playWhistle(int room, int message) {
+        if (!isRoom(room) || !isMessage(message)) {
+            return NO_TUNE;
+        }
         int reason = school.reasonAgainst(room, message);
         if (reason == 0) {
             soundWhistle(room, message);
@@ -588,9 +598,12 @@ public final class WhistleTunes {
     }
 
     private int playTeaching(int start, int end) {
-        int equals = text.at(start + 1) == '=' ? start + 1 : start + 2;
-        int message = text.numberIn(start, equals);
-        tune.read(text, equals + 1, end);
+        int middle = text.at(start + 1) == '=' ? start + 1 : start + 2;
+        int message = text.numberIn(start, middle);
+        if (!isMessage(message)) {
+            return NO_TUNE;
+        }
+        tune.read(text, middle + 1, end);
         int reason = reasonAgainstTune(message);
         if (reason == 0) {
             school.learn(message, tune);
@@ -637,12 +650,15 @@ public final class WhistleTunes {
         }
 
         void learn(int message, Tune taught) {
-            tuneLengths[message] = taught.length;
-            System.arraycopy(taught.notes, 0, tuneNotes, message * MOST_NOTES, taught.length);
+            if (taught.isOfTuneLength()) {
+                tuneLengths[message] = taught.length;
+                System.arraycopy(taught.notes, 0, tuneNotes, message * MOST_NOTES, taught.length);
+            }
         }
 
         int noteAt(int message, int place) {
-            return tuneNotes[message * MOST_NOTES + place];
+            int index = message * MOST_NOTES + place;
+            return index >= 0 && index < tuneNotes.length ? tuneNotes[index] : 0;
         }
 
         void beginNight() {
@@ -808,14 +824,20 @@ public final class WhistleTunes {
                 oldest = (oldest + 1) % MOST_SAVED;
                 size--;
             }
-            states[(oldest + size) % MOST_SAVED].copyFrom(school);
-            size++;
+            School state = states[(oldest + size) % MOST_SAVED];
+            if (state != null) {
+                state.copyFrom(school);
+                size++;
+            }
         }
 
         void popInto(School school) {
             if (size > 0) {
                 size--;
-                school.copyFrom(states[(oldest + size) % MOST_SAVED]);
+                School state = states[(oldest + size) % MOST_SAVED];
+                if (state != null) {
+                    school.copyFrom(state);
+                }
             }
         }
     }
@@ -930,20 +952,22 @@ public final class WhistleTunes {
         }
 
         private static int afterStart(char code) {
-            switch (code) {
-                case '!':
-                    return END_OF_PART;
-                case 'w':
-                    return WHISTLER;
-                case 't':
-                    return TOLD;
-                case 'k':
-                    return KEY;
-                case '1':
-                    return TEACHING_ONE;
-                default:
-                    return isIn(code, '0', '9') ? EQUALS : WRONG;
+            if (code == '!') {
+                return END_OF_PART;
             }
+            if (code == 'w') {
+                return WHISTLER;
+            }
+            if (code == 't') {
+                return TOLD;
+            }
+            if (code == 'k') {
+                return KEY;
+            }
+            if (code == '1') {
+                return TEACHING_ONE;
+            }
+            return isIn(code, '0', '9') ? EQUALS : WRONG;
         }
 
         private int afterItem(char code) {
@@ -1050,12 +1074,17 @@ public final class WhistleTunes {
         int messageOf(Tune tune) {
             int node = 0;
             for (int place = 0; place < tune.length; place++) {
-                node = children[node * NOTES + tune.shapeAt(place)];
+                node = childOf(node, tune.shapeAt(place));
                 if (node == 0) {
                     return NONE;
                 }
             }
-            return messages[node];
+            return node < ALL_NODES ? messages[node] : NONE;
+        }
+
+        private int childOf(int node, int note) {
+            int edge = node * NOTES + note;
+            return edge >= 0 && edge < children.length ? children[edge] : 0;
         }
 
         private void addShape(School school, int message) {
@@ -1064,11 +1093,16 @@ public final class WhistleTunes {
             for (int place = 0; place < school.tuneLengths[message]; place++) {
                 node = childFor(node, Math.floorMod(school.noteAt(message, place) - first, NOTES));
             }
-            messages[node] = message;
+            if (node < ALL_NODES) {
+                messages[node] = message;
+            }
         }
 
         private int childFor(int node, int note) {
             int edge = node * NOTES + note;
+            if (edge < 0 || edge >= children.length) {
+                return 0;
+            }
             if (children[edge] == 0 && nodes + 1 < ALL_NODES) {
                 nodes++;
                 children[edge] = nodes;
