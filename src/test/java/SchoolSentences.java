@@ -421,11 +421,12 @@ final class SchoolSentences extends Sentences {
     }
 
     private static void markAllRooms() {
-        answer("set(0, 0)");
+        answer("set(1, 9)");
         forbid(7, 0);
         for (int room = 0; room < 6; room++) {
             answer("whistle(" + room + ", 0)");
         }
+        dueRooms(1, 2, 2, 3, 3, 2, 2);
     }
 
     private static void marksOfAWeek() {
@@ -434,14 +435,15 @@ final class SchoolSentences extends Sentences {
             another();
             teach(0, "cd");
             markAllRooms();
+            answer("set(0, 0)");
             answer("set(1, 1)");
             for (int night = 1; night <= 22; night++) {
                 type("!");
                 answer(way == 0 ? "bell()" : "play()");
                 due("count(0)", night);
-                int marks = night < 7 ? 6 : night > 7 && night < 14 ? 1 : 0;
-                due("count(9)", marks);
-                due("count(7)", marks);
+                int later = night > 7 && night < 14 ? 1 : 0;
+                due("count(9)", night < 7 ? 14 : later);
+                due("count(7)", night < 7 ? 6 : later);
                 if (night == 7) {
                     dueRooms(1, 0, 0, 0, 0, 0, 0);
                     answer("whistle(3, 0)");

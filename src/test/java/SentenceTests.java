@@ -10,6 +10,7 @@ public final class SentenceTests {
         ChangeSentences.run();
         TextCallSentences.run();
         LookSentences.run();
+        WouldBeSentences.run();
         Sentences.allIsNamed("Terms", "Promise 31: digest", WORDS_WITHOUT_TEST);
         if (!Sentences.end()) {
             System.exit(1);

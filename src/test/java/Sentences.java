@@ -180,6 +180,15 @@ class Sentences {
         story.add(call);
     }
 
+    /** An answer as a number; where an exception was answered, that is a fault. */
+    static double number(String answered) {
+        if (answered.endsWith("Exception")) {
+            fault("a number is due, not " + answered + told());
+            return 0;
+        }
+        return Double.parseDouble(answered);
+    }
+
     /** Each answer in turn, for the last argument from 0 on. */
     static void dueEach(String callWithoutLast, int... wants) {
         for (int last = 0; last < wants.length; last++) {
@@ -204,6 +213,24 @@ class Sentences {
         if (got.endsWith("Exception")) {
             fault("teach(" + message + ") of " + text + " answered " + got);
         }
+    }
+
+    /** Three whistles: of room 3 by the key of now 2, of the rooms 0 and 5 by the old key 0; all are heard everywhere. */
+    static void aSchool() {
+        teach(0, "cdefga");
+        teach(12, "efha");
+        teach(13, "aha");
+        answer("key(2)");
+        answer("tell(3)");
+        answer("tell(4)");
+        answer("lookout(1, true)");
+        answer("ban(1, 12)");
+        answer("ban(2, 12)");
+        answer("set(1, 2)");
+        answer("set(0, 2)");
+        due("whistle(3, 12)", 1);
+        due("whistle(0, 13)", 3);
+        due("whistle(5, 12)", 3);
     }
 
     static void times(int many, String call) {
@@ -287,7 +314,7 @@ class Sentences {
     static void undoable(String call, Object want) {
         Subject changed = played(List.of());
         Subject before = played(List.of());
-        int saved = Integer.parseInt(before.answer("count(13)"));
+        int saved = (int) number(before.answer("count(13)"));
         compare(call, want, changed.answer(call));
         compare("count(13) after " + call, saved + 1, changed.answer("count(13)"));
         compare("undo() after " + call, saved, changed.answer("undo()"));

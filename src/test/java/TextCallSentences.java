@@ -55,7 +55,7 @@ final class TextCallSentences extends Sentences {
         String saved = answer("count(13)");
         due(call, want);
         due("count(13)", saved);
-        due("undo()", Integer.parseInt(saved) - 1);
+        due("undo()", (int) number(saved) - 1);
         due("count(1)", 0);
     }
 
@@ -410,8 +410,8 @@ final class TextCallSentences extends Sentences {
         answer("play()");
         String[] looks = {"count(0)", "count(1)", "count(2)", "count(5)", "count(6)", "count(8)", "count(9)", "count(11)", "count(12)",
             "latest(0)", "latest(3)", "stopped(0)", "stopped(1)", "note(12, 1)", "message(12, 1)", "message(12, 2)", "message(12, 3)",
-            "room(5, 0)", "room(4, 4)", "room(5, 5)", "room(0, 1)", "understoodShare()"};
-        Object[] kept = {0, 0, 1, 1, 4, 1, 1, 2, 5, 0, 30, 2, 2, 1, 1, 1, 4, 2, 1, 1, 1, 0.8};
+            "room(5, 0)", "room(4, 4)", "room(5, 5)", "room(0, 1)", "understoodShare()", "message(12, 0)", "note(12, 2)"};
+        Object[] kept = {0, 0, 1, 1, 4, 1, 1, 2, 5, 0, 30, 2, 2, 1, 1, 1, 4, 2, 1, 1, 1, 0.8, 2, -1};
         answer("keep()");
         for (int round = 0; round < 3; round++) {
             times(7, "bell()");

@@ -249,6 +249,9 @@ final class TuneSentences extends Sentences {
         sentence("Messages", "No two messages have tunes of one shape.");
         teach(0, "cde");
         teach(19, "ced");
+        type("egf");
+        refused("teach(0)", STATE);
+        refused("teach(18)", STATE);
         type("efg");
         refused("teach(19)", STATE);
         refused("teach(1)", STATE);
