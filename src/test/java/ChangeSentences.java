@@ -58,6 +58,7 @@ final class ChangeSentences extends Sentences {
         type("0=cd");
         refused("teach(0)", ARGUMENT);
         type("cd,!");
+        due("firstError()", 0);
         refused("teach(0)", ARGUMENT);
         type("gd(h)2");
         due("teach(0)", 4);

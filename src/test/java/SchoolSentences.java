@@ -9,6 +9,7 @@ final class SchoolSentences extends Sentences {
         reach();
         lookouts();
         hearers();
+        silencedHearers();
         ownKeys();
         understanding();
         noise();
@@ -144,6 +145,21 @@ final class SchoolSentences extends Sentences {
                 }
             }
         }
+    }
+
+    private static void silencedHearers() {
+        sentence(ROOMS, "Each room on these floors hears it,");
+        teach(0, "cd");
+        teach(12, "ce");
+        forbid(1, 0);
+        answer("set(1, 1)");
+        answer("whistle(1, 0)");
+        due("room(1, 3)", 1);
+        due("ifWhistled(0, 12, 0)", 14);
+        due("whistle(0, 12)", 3);
+        due("latest(3)", 14);
+        isRaised(1, 2, 3);
+        due("room(1, 4)", 1);
     }
 
     private static void tell(int key, int... rooms) {

@@ -26,14 +26,15 @@ class Sentences {
     private static final List<String> SIX_STATES =
         List.of("key(1)", "key(2)", "key(3)", "key(4)", "key(5)", "key(6)");
 
-    private static final Map<String, String> parts = partsOfDocument();
-    private static final Map<String, String> unnamed = new LinkedHashMap<>(parts);
     private static final Set<String> broken = new TreeSet<>();
     private static final List<String> story = new ArrayList<>();
-    private static String named = "";
-    private static Subject subject = new Subject();
+    private static String named = "The document";
     private static int sentences = 0;
     private static int printed = 0;
+    private static Subject subject = new Subject();
+    // Last, as reading the document may be a fault already.
+    private static final Map<String, String> parts = partsOfDocument();
+    private static final Map<String, String> unnamed = new LinkedHashMap<>(parts);
 
     /** An object under test, which counts its calls: beyond the 512th nothing is promised. */
     private static final class Subject {
@@ -180,9 +181,9 @@ class Sentences {
         story.add(call);
     }
 
-    /** An answer as a number; where an exception was answered, that is a fault. */
+    /** An answer as a number; anything else, such as an exception's name, is a fault. */
     static double number(String answered) {
-        if (answered.endsWith("Exception")) {
+        if (!answered.matches("-?[0-9].*")) {
             fault("a number is due, not " + answered + told());
             return 0;
         }

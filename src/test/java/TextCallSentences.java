@@ -102,6 +102,10 @@ final class TextCallSentences extends Sentences {
         String full = "k0" + ",!".repeat(29);
         sentence(part, "Finds the first syntax error of the buffer as an evening.");
         finds("firstError()", new String[] {"cd", "(cd)2", "0=cd", "w0:1,b", "!,(", "12=c(d"}, new int[] {0, 0, 4, 5, 2, 6});
+        another();
+        type("0=cd,");
+        due("tuneError()", 0);
+        due("firstError()", 5);
         sentence(part, "Returns the index of the first character that is a syntax error;");
         String[] wrong = {"x", "!x", "xx", "!x!x", full.substring(0, 59) + "x", full.substring(0, 58) + "xx", "a" + full.substring(1)};
         finds("firstError()", wrong, new int[] {0, 1, 0, 1, 59, 58, 0});
@@ -115,6 +119,10 @@ final class TextCallSentences extends Sentences {
         String full = "cdefgah".repeat(8) + "(cd)";
         sentence(part, "Finds the first syntax error of the buffer as a tune alone.");
         finds("tuneError()", new String[] {"0=cd", "cd,cd", "cd,", "!", "(c)2,", "cd("}, new int[] {0, 2, 2, 0, 4, 3});
+        another();
+        type("cd,");
+        due("firstError()", 0);
+        due("tuneError()", 2);
         sentence(part, "Returns the index of the first character that is a syntax error;");
         String[] wrong = {"b", "cb", "bb", "cbcb", full.substring(0, 59) + "b", full.substring(0, 58) + ")b", "b" + full.substring(1)};
         finds("tuneError()", wrong, new int[] {0, 1, 0, 1, 59, 59, 0});

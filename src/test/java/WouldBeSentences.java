@@ -424,6 +424,15 @@ final class WouldBeSentences extends Sentences {
         teach(0, "cd");
         answer("whistle(0, 0)");
         due("understoodShare()", "1.0");
+        another();
+        teach(0, "cd");
+        answer("set(0, 0)");
+        answer("key(1)");
+        answer("tell(0)");
+        answer("whistle(0, 0)");
+        due("understoodShare()", "0.0");
+        answer("whistle(2, 0)");
+        due("understoodShare()", 1.0 / 2.0);
         sentence(part, "1.0 without any.");
         due("understoodShare()", "1.0");
         teach(0, "cd");
