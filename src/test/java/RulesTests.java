@@ -76,6 +76,46 @@ public final class RulesTests {
         }
     }
 
+    /** The document's face stands in the class line by line, and each of its headings ahead of the calls it names. */
+    private static void faceOfDocument() throws Exception {
+        String document = Files.readString(Path.of("../shared/DOC.md"));
+        String source = Files.readString(Path.of("src/main/java/WhistleTunes.java"));
+        Matcher block = Pattern.compile("(?s)```java\n(.*?)```").matcher(document);
+        int place = 0;
+        int members = 0;
+        for (String line : block.find() ? block.group(1).split("\n") : new String[0]) {
+            String member = line.trim().replaceFirst(";$", "");
+            if (member.startsWith("public ")) {
+                members++;
+                place = placeAfter(source, member + (member.contains("(") ? " {" : member.endsWith("{") ? "" : ";"), place);
+            }
+        }
+        if (members != FACE.length + 3) {
+            fault("the document's face has not the members that are due, but " + members);
+        }
+        Matcher heading = Pattern.compile("Ahead of the calls (.*?) the interface says: (---- .*?)\\.\n").matcher(document);
+        int calls = 0;
+        int start = 0;
+        while (heading.find()) {
+            start = placeAfter(source, "// " + heading.group(2) + "\n", start);
+            for (String call : heading.group(1).split(", ")) {
+                calls++;
+                start = placeAfter(source, " " + call.replace("`", "") + "(", start);
+            }
+        }
+        if (calls != FACE.length) {
+            fault("the document's headings are not ahead of all calls, but of " + calls);
+        }
+    }
+
+    private static int placeAfter(String source, String words, int start) {
+        int place = source.indexOf(words, start);
+        if (place < 0) {
+            fault("not in the class, or not in the document's order: " + words);
+        }
+        return Math.max(place, start);
+    }
+
     private static void fieldsAndConstructors() {
         for (Constructor<?> constructor : WhistleTunes.class.getDeclaredConstructors()) {
             if (constructor.getModifiers() != Modifier.PUBLIC || constructor.getParameterCount() != 0) {
@@ -134,6 +174,7 @@ public final class RulesTests {
 
     public static void main(String[] args) throws Exception {
         face();
+        faceOfDocument();
         fieldsAndConstructors();
         text();
         System.out.println(wrong == 0 ? "the rules are kept" : wrong + " rules are broken");

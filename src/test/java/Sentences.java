@@ -29,7 +29,7 @@ class Sentences {
     private static final Set<String> broken = new TreeSet<>();
     private static final List<String> story = new ArrayList<>();
     private static String named = "The document";
-    private static int sentences = 0;
+    private static int tests = 0;
     private static int printed = 0;
     private static Subject subject = new Subject();
     // Last, as reading the document may be a fault already.
@@ -103,11 +103,16 @@ class Sentences {
         return found;
     }
 
-    /** Begins a test. */
-    static void sentence(String part, String words) {
-        sentences++;
-        named = part + ": " + words;
+    /** Begins a test, on a new object. */
+    static void begin(String name) {
+        tests++;
+        named = name;
         another();
+    }
+
+    /** Begins the test of a sentence of the document. */
+    static void sentence(String part, String words) {
+        begin(part + ": " + words);
         if (parts.isEmpty()) {
             return;
         }
@@ -135,14 +140,14 @@ class Sentences {
     }
 
     static boolean end() {
-        System.out.println(sentences + " tests of sentences, " + broken.size() + " of them broken");
+        System.out.println(tests + " tests, " + broken.size() + " of them broken");
         for (String words : broken) {
             System.out.println("broken: " + words);
         }
         return broken.isEmpty();
     }
 
-    private static void fault(String what) {
+    static void fault(String what) {
         broken.add(named);
         printed++;
         if (printed <= 200) {
